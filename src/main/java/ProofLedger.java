@@ -196,7 +196,6 @@ public final class ProofLedger {
 
         void rewind() {
             words = 0;
-            start = 0;
             end = 0;
             insideComment = false;
         }
@@ -469,7 +468,9 @@ public final class ProofLedger {
             heights[size] = 0;
             incomplete[size] = false;
             sound[size] = true;
-            Arrays.fill(useCounts, size * Statements.MOST, (size + 1) * Statements.MOST, 0);
+            for (int j = 0; j < Statements.MOST; j++) {
+                useCounts[size * Statements.MOST + j] = 0;
+            }
         }
 
         void addPair(int pair) {
@@ -601,9 +602,9 @@ public final class ProofLedger {
             apartFrom[second] |= 1L << first;
         }
 
-        /** Whether each of some is apart from each of others; none is apart from itself, so a common one is seen here, too. */
+        /** Whether each of some is apart from each of others; as none is apart from itself, none may be in both. */
         boolean areApart(long some, long others) {
-            for (int v = 0; v < Names.MOST; v++) {
+            for (int v = 0; v < Names.MOST && some >>> v != 0; v++) {
                 if ((some >>> v & 1) != 0 && (others & ~apartFrom[v]) != 0) {
                     return false;
                 }
@@ -1190,7 +1191,7 @@ public final class ProofLedger {
         private void keepPairs(long variables) {
             for (int first = 0; first < names.size; first++) {
                 long others = (variables >>> first & 1) != 0 ? context.apartFrom[first] & variables : 0;
-                for (int second = first + 1; second < names.size; second++) {
+                for (int second = first + 1; second < names.size && others != 0; second++) {
                     if ((others >>> second & 1) != 0) {
                         assertions.addPair(Context.pairOf(first, second));
                     }

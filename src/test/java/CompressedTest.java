@@ -111,7 +111,10 @@ public final class CompressedTest {
         Check.faultAtLast(start + "m $p a x $= ( ) ?Z", PROOF);
         Check.reads(start + "m $p a x $= ( ) A Z $.", 4);
         Check.reads(start + "m $p a x x $= ( j ) AZCBZ $.", 4);
-        // Tags of an earlier proof are gone.
+        // Labels and tags of an earlier proof are gone.
+        Check.reads(start + "m $p a x x $= ( two ) ABZ $. n $p a x x $= ( j k ) AZDBZEEC $.", 5);
+        Check.reads(start + "m $p a x $= ( " + Check.times(11, "two") + ") A $. n $p a x $= ( "
+            + Check.times(11, "two") + ") A $.", 5);
         Check.faultAtLast(start + "m $p a x $= ( ) AZ $. n $p a x $= ( ) AB", PROOF);
     }
 

@@ -52,6 +52,8 @@ public final class DeclarationsTest {
         Check.due("the third one's hypothesis", x.hypothesis(2, 0), Check.code("h"));
         Check.due("no more of them", x.hypothesis(2, 1), ProofLedger.NONE);
         Check.faultAtLast("$c a $. ${ $v x $. $} f $f a x", NAME);
+        Check.faultAtLast("${ $v x $. $} $d x", NAME);
+        Check.faultAtLast("${ $v x $. $} $v x $. $c a $. l $a a x", NAME);
         Check.faultAtLast("$c a $. ${ $v x $. f $f a x $. $} $v x $. l $a a x", NAME);
         Check.faultAtLast("$c a $. $v x $. ${ f $f a x $. $} l $a a x", NAME);
         Check.reads("$c a $. $v x $. ${ f $f a x $. $} g $f a x $. l $a a x $.", 1);

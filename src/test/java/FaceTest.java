@@ -96,7 +96,7 @@ public final class FaceTest {
         long before = bean.getThreadAllocatedBytes(self);
         useAll(x, 500);
         long made = bean.getThreadAllocatedBytes(self) - before;
-        // Room for what the measuring itself makes: a byte for each of the 7000 calls would be seen.
+        // Room for what the measuring itself makes: one object in each of the reads would be seen.
         Check.due("calls make nothing: " + made + " bytes", made < 5000, true);
     }
 

@@ -107,6 +107,12 @@ public final class ProofsTest {
         Check.faultAtLast(SETS + "$d x z $. $d x u $. $d y z $. " + sum, APART);
         Check.faultAtLast(SETS + "$d x u $. $d y z $. $d y u $. " + sum, APART);
         Check.faultAtLast(SETS + "$d x y z $. l $p t x y z x $= wx wy two wz wx two ne", APART);
+        Check.reads(SETS + "$d x z $. $d y z $. l $p t z x y $= wz wx wy two ne $.", 5);
+        Check.reads(SETS + "$d z x $. $d z y $. l $p t z x y $= wz wx wy two ne $.", 5);
+        // The very first name is a variable like others.
+        String first = "$v x y z $. $c t $. wx $f t x $. wy $f t y $. wz $f t z $. ${ $d x y $. ne $a t x y $. $} ";
+        Check.faultAtLast(first + "l $p t x y $= wx wy ne", APART);
+        Check.due("its pair", Check.reads(first + "$d z x $. l $p t x z $= wx wz ne $.", 2).apart(1, 'x', 'z'), true);
         // Constants and nothing are apart from everything.
         Check.reads(SETS + "l $p t s x $= c wx ne $.", 5);
         Check.reads(SETS + "l $p t s s $= c c ne $.", 5);
@@ -138,6 +144,7 @@ public final class ProofsTest {
         told(x, 4, 2, 2);
         told(x, 5, 1, 1);
         Check.due("uses behind a ?", x.uses(4, 0), 0);
+        Check.due("the first assertion", Check.reads("$c a $. l $p a $= ? $.", 1).count(6), 1);
         Check.faultAtLast(LOGIC + "l $p w p $= ? zz", PROOF);
         Check.faultAtLast(LOGIC + "l $p w p $= ? mi", PROOF);
         Check.faultAtLast(LOGIC + "l $p w p $= ? l", PROOF);
