@@ -2,8 +2,14 @@
 final class Check {
     private static int asked = 0;
     private static int wrong = 0;
+    private static String sentence = "";
 
     private Check() {
+    }
+
+    /** The words of the document that the answers asked for from here on hold to: a wrong one is told with them. */
+    static void sentence(String words) {
+        sentence = words;
     }
 
     static void due(String what, long got, long want) {
@@ -11,6 +17,9 @@ final class Check {
         if (got != want) {
             wrong++;
             System.out.println(what + ": answered " + got + ", due is " + want);
+            if (!sentence.isEmpty()) {
+                System.out.println("    the document: " + sentence);
+            }
         }
     }
 
